@@ -138,7 +138,8 @@ public final class FrozeFirst {
 
     public long odds(int meaning, int first, int part) {
         if (!isMeaning(meaning) || !isFirst(first) || !isPart(part)) return LOST + OUTSIDE;
-        readNeedles(meaning);
+        readNeedles(hotNeedles, HOT_ONE, meaning);
+        readNeedles(coldNeedles, COLD_ONE, meaning);
         long upper = 0;
         for (int hot = 0; hot < DEGREES; hot++) {
             for (int cold = 0; cold < DEGREES; cold++) {
@@ -254,7 +255,8 @@ public final class FrozeFirst {
     public int draw(int seed, int n, int meaning, int first) {
         if (!within(seed, 0, MOST_SEED) || !within(n, 1, MOST_DRAWN)) return OUTSIDE;
         if (!isMeaning(meaning) || !isFirst(first)) return OUTSIDE;
-        readNeedles(meaning);
+        readNeedles(hotNeedles, HOT_ONE, meaning);
+        readNeedles(coldNeedles, COLD_ONE, meaning);
         int drawn = seed;
         int many = 0;
         for (int i = 0; i < n; i++) {
@@ -374,12 +376,7 @@ public final class FrozeFirst {
         return timeOf(COLD_ONE, b, meaning, causes) - timeOf(HOT_ONE, b, meaning, causes);
     }
 
-    private void readNeedles(int meaning) {
-        readNeedlesOf(hotNeedles, HOT_ONE, meaning);
-        readNeedlesOf(coldNeedles, COLD_ONE, meaning);
-    }
-
-    private void readNeedlesOf(Needles needles, int pail, int meaning) {
+    private void readNeedles(Needles needles, int pail, int meaning) {
         needles.readRow(now.night.row[pail]);
         for (int b = 0; b < DEGREES; b++) {
             // A degree at which freezing never begins counts for nothing: its run is spared.
@@ -534,7 +531,8 @@ public final class FrozeFirst {
 
         /** Water is heaviest at four degrees: what is nearer to that sinks. */
         private static int fromStill(int warmth) {
-            return Math.abs(warmth - STILL_WARMTH);
+            int off = warmth - STILL_WARMTH;
+            return off < 0 ? -off : off;
         }
 
         private void freeze() {
@@ -695,8 +693,9 @@ public final class FrozeFirst {
 
         private boolean letterStands(char sign) {
             int letter = LETTERS.indexOf(sign);
+            if (letter < 0) return false;
             int bit = 1 << letter;
-            if (letter < 0 || (kept & bit) != 0) return false;
+            if ((kept & bit) != 0) return false;
             kept |= bit;
             place = IN_LETTERS;
             return true;

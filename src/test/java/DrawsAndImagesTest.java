@@ -40,6 +40,11 @@ public final class DrawsAndImagesTest {
         x.row(0, 3000000000L);
         x.row(1, 2100000000L);
         DUE.due("number 2 of three at 0 degrees", x.draw(0, 1, 0, 0), 1);
+        x.row(0, 1000000000L);
+        x.row(1, 100000000L);
+        DUE.due("rows of one digit 1", x.draw(77, 300, 0, 0), 300);
+        x.row(1, 1000000000L);
+        DUE.due("rows alike of one digit 1", x.draw(77, 300, 0, 2), 300);
     }
 
     private static void drawAll() {

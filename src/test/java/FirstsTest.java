@@ -190,13 +190,16 @@ public final class FirstsTest {
         // In round 1 both: alike is not first, and nothing comes ahead of round 1.
         y.pail(0, 1, 10);
         DUE.due("both in round 1", y.any(0, 0), FrozeFirst.NONE);
-        // The cold one never, the hot one in the end: 5 of a tenth of the water.
-        y.set(0, 1);
-        y.set(1, 5);
-        DUE.due("cold one never", y.time(1, 1, 0), 601);
-        y.pail(0, 0, 1);
-        int least = y.time(0, 0, 0) < y.time(1, 0, 0) ? 1 : FrozeFirst.NONE;
-        DUE.due("any(0, 0)", y.any(0, 0), least);
+        FrozeFirst z = plainPails(90, 0);
+        z.pail(0, 1, 10);
+        // From 1 degree a tenth of the water loses 550 in round 1; the cold one comes to 1 degree in round 3.
+        DUE.due("the cold one's round", z.time(1, 1, 0), 3);
+        DUE.due("a whole round ahead", z.any(0, 1), 1);
+        z.pail(0, 1, 50);
+        // Half of the water: 110 (-10), 98 (-108): round 2, just one round ahead.
+        DUE.due("just one round ahead", z.any(0, 1), 1);
+        z.set(0, 1);
+        DUE.due("both never", z.any(0, 9), FrozeFirst.NONE);
     }
 
     private static void chance() {

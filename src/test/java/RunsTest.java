@@ -175,6 +175,9 @@ public final class RunsTest {
         x.pail(0, 1, 10);
         // 800 by 50 is 40, of a tenth 400: 600 becomes 200.
         cells(x, 9, 1, 200, 600, 600, 600);
+        x.set(2, 0);
+        x.set(3, 50);
+        cells(x, 9, 1, 600, 600, 600, 200);
     }
 
     private static void glassInEachCell() {
@@ -207,6 +210,12 @@ public final class RunsTest {
         // 50 in round 1; 150 by 50 is 7, of a fifth 35: 15 left; 115 by 50 is 5, of a fifth 25: -10.
         DUE.due("above nought", x.at(0, 9, 2, 1), 15);
         DUE.due("reads a round later", x.glass(0, 9, 1), 3);
+        x.pail(0, 1, 100);
+        x.set(0, 32);
+        x.set(1, 30);
+        // 3300 by 30 is 99: a hundredth of a degree is left.
+        DUE.due("one above nought", x.at(0, 9, 1, 1), 1);
+        DUE.due("does not read there", x.glass(0, 9, 1), 2);
     }
 
     /** A place that comes to nought in the very round of the last drop still reads. */
