@@ -207,6 +207,8 @@ public final class TriesTest {
         // Told twice, it counts twice: sr and st make three pairs each, and sr is less.
         askDue("srt>;srt>;s>", 3);
         askDue("srtn>", 7);
+        // There is no seventeenth set that would make three pairs with nothing: sr makes two.
+        askDue("->;->;->;s>;r>;t>;n>", 3);
         // sn, tn and srtn are not there and would make four pairs each.
         String most = "->;s>;r>;sr>;t>;st>;rt>;srt>;n>;rn>;srn>;rtn>;stn>";
         DUE.due("signs of nearly all", most.length() <= 60 ? 1 : 0, 1);
