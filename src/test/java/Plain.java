@@ -165,6 +165,35 @@ final class Plain {
         return -6;
     }
 
+    private static BigInteger waysOf(int k, int n) {
+        BigInteger ways = BigInteger.ZERO;
+        for (int i = k; i <= n; i++) {
+            BigInteger choose = BigInteger.ONE;
+            for (int j = 1; j <= i; j++) choose = choose.multiply(BigInteger.valueOf(n - i + j)).divide(BigInteger.valueOf(j));
+            ways = ways.add(choose);
+        }
+        return ways;
+    }
+
+    long chance(int k, int n, int part) {
+        return lowest(waysOf(k, n), BigInteger.TWO.pow(n), part);
+    }
+
+    int pairs(int share, int doubt) {
+        for (int n = 1; n <= 40; n++) {
+            int k = n * share / 10;
+            if (k * 10 < n * share) k++;
+            BigInteger chance = waysOf(k, n).multiply(BigInteger.valueOf(1000));
+            if (chance.compareTo(BigInteger.TWO.pow(n).multiply(BigInteger.valueOf(doubt))) <= 0) return n;
+        }
+        return -6;
+    }
+
+    int told(int what) {
+        if (what >= 10) return alike[what - 10];
+        return new int[] {signs.length(), tries.size(), start[0], start[1], mass[0], mass[1]}[what];
+    }
+
     int draw(int seed, int n, int meaning, int first) {
         int[][] firsts = firsts(meaning);
         String hot = numbers(0);
