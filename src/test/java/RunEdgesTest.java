@@ -145,6 +145,8 @@ public final class RunEdgesTest {
         cells(mass(with(still(0), SIDE, 1, AIR, 10), 51), 9, 1, -1, -1, -1, -1);
         cells(mass(with(still(0), SIDE, 1, AIR, 10), 50), 9, 1, -2, -2, -2, -2);
         cells(mass(with(still(0), SIDE, 1, AIR, 19), 10), 9, 1, -10, -10, -10, -10);
+        // 12500 by 80 and by 50 of 1000 are 1000 and 625; by 0.11 they are 9090.9 and 5681.8.
+        cells(mass(with(still(100), SIDE, 50, TOP, 30, AIR, 25), 11), 9, 1, 910, 4319, 4319, 4319);
         // All of the dearest: 14000 by 100 of 1000, ten times that: just down to the air.
         cells(mass(with(still(100), SIDE, 50, TOP, 50, AIR, 40), 10), 9, 1, 0, 3000, 3000, 3000);
         DUE.due("no colder than the air", mass(with(still(100), SIDE, 50, TOP, 50, AIR, 8), 10).at(0, 9, 1, 0), -800);
@@ -269,6 +271,11 @@ public final class RunEdgesTest {
         shows(with(still(99), MELT, 1, CAUSES, 2), 600, RIME_LEFT, 40);
         shows(with(still(100), MELT, 0, CAUSES, 2), 600, RIME_LEFT, 40);
         shows(with(still(100), MELT, 50, RIME, 99, CAUSES, 2), 1, RIME_LEFT, 49);
+        // 400 less 97 (3900 by 25 of 1000) is 303: by 33 that is 9999 of 10000.
+        FrozeFirst x = with(still(4), AIR, 35, ON_RIME, 25, MELT, 33, CAUSES, 2);
+        DUE.due("the lowest one", x.at(0, 9, 1, 3), 303);
+        shows(x, 1, RIME_LEFT, 39);
+        shows(x, 2, RIME_LEFT, 39);
     }
 
     /** "to no less than 0": MELT in a round at 100 degrees; one is left, just none, one less than none. */
