@@ -48,11 +48,12 @@ public final class DrawsAndImagesTest {
     }
 
     private static void drawAll() {
-        FrozeFirst x = new FrozeFirst();
-        x.row(0, 9081726354L);
-        x.row(1, 1112223339L);
         for (int seed : new int[] {0, 1, 5000, 9999}) {
             for (int meaning = 0; meaning < 3; meaning++) {
+                // An object answers 512 calls: one of its own for each seed and meaning.
+                FrozeFirst x = new FrozeFirst();
+                x.row(0, 9081726354L);
+                x.row(1, 1112223339L);
                 int[] want = drawnFirsts(x, seed, 300, meaning);
                 for (int first = 0; first < 3; first++) {
                     String call = "draw(" + seed + ", 300, " + meaning + ", " + first + ")";

@@ -203,8 +203,8 @@ public final class FirstsTest {
     }
 
     private static void chance() {
-        FrozeFirst x = new FrozeFirst();
         for (int n = 1; n <= 40; n++) {
+            FrozeFirst x = new FrozeFirst();
             BigInteger ways = BigInteger.ZERO;
             BigInteger all = BigInteger.TWO.pow(n);
             for (int k = n; k >= 0; k--) {
@@ -234,12 +234,13 @@ public final class FirstsTest {
         DUE.due("pairs(10, 1)", x.pairs(10, 1), 10);
         for (int share = 6; share <= 10; share++) {
             for (int doubt = 1; doubt <= 200; doubt++) {
-                DUE.due("pairs(" + share + ", " + doubt + ")", x.pairs(share, doubt), pairsDue(x, share, doubt));
+                DUE.due("pairs(" + share + ", " + doubt + ")", new FrozeFirst().pairs(share, doubt), pairsDue(share, doubt));
             }
         }
     }
 
-    private static int pairsDue(FrozeFirst x, int share, int doubt) {
+    private static int pairsDue(int share, int doubt) {
+        FrozeFirst x = new FrozeFirst();
         for (int n = 1; n <= 40; n++) {
             int k = n * share / 10 + (n * share % 10 == 0 ? 0 : 1);
             BigInteger upper = BigInteger.valueOf(x.chance(k, n, 0)).multiply(BigInteger.valueOf(1000));

@@ -35,6 +35,7 @@ public final class TextEdgesTest {
         askOfNone();
         askNotAmongThem();
         askMostPairs();
+        askOfSixteen();
         askTheLeast();
         askOfNearlyAll();
         seeds();
@@ -89,11 +90,9 @@ public final class TextEdgesTest {
             DUE.due("say(" + signs[i] + ")", x.say(signs[i]), want[i]);
             DUE.due("signs behind it", x.told(0), want[i] == 1 ? 1 : 0);
         }
-        FrozeFirst x = new FrozeFirst();
         int taken = 0;
         for (int sign = 0; sign < 256; sign++) {
-            if (x.say(sign) > 0) taken++;
-            if (x.told(0) == 60) x.wipe();
+            if (new FrozeFirst().say(sign) > 0) taken++;
         }
         DUE.due("how many codes there are", taken, 94);
     }
@@ -393,6 +392,16 @@ public final class TextEdgesTest {
         askDue("rtn>;stn>;srn>;srt>", 15);
         // Three against two: srt by sr, st and rt.
         askDue("sr>;st>;rt>;s>;r>;t>;->", 7);
+    }
+
+    /** "(as bits 0 to 15 ..)": with - told more than once a sixteenth bit would make most pairs; it is no TRY. */
+    private static void askOfSixteen() {
+        // s, r, t and n are there: sr makes two, as each other pair of letters does; 16 would make one, two, three.
+        askDue("->;s>;r>;t>;n>", 3);
+        askDue("->;->;s>;r>;t>;n>", 3);
+        askDue("->;->;->;s>;r>;t>;n>", 3);
+        // 15 itself can be asked for: it makes four.
+        askDue("rtn>;stn>;srn>;srt>", 15);
     }
 
     /** "the least such". */
