@@ -23,8 +23,9 @@ public final class FaceTest {
     private static final String[] CONSTANTS = {
         "int NONE", "int UNKNOWN", "int OUTSIDE", "int STATE", "int FULL", "int NO", "int GONE", "long LOST"};
 
-    public static void main(String[] args) throws IOException {
+    public static void main(String[] args) throws ReflectiveOperationException, IOException {
         constants();
+        asTheDocumentWritesIt(Files.readString(Path.of("../shared/DOC.md")));
         methods();
         fields();
         inside();
@@ -44,6 +45,28 @@ public final class FaceTest {
         DUE.due("NO", FrozeFirst.NO, -5);
         DUE.due("GONE", FrozeFirst.GONE, -100000000);
         DUE.due("LOST", FrozeFirst.LOST, -1000000000000000000L);
+    }
+
+    /** The lists above are held against the document's own lines, so that they can not be wrong together with the class. */
+    private static void asTheDocumentWritesIt(String document) throws ReflectiveOperationException {
+        Set<String> written = new TreeSet<>();
+        Matcher heads = Pattern.compile("(?m)^    public (int|long) (\\w+)\\((.*)\\);$").matcher(document);
+        while (heads.find()) {
+            String types = heads.group(3).replaceAll("(int|long) \\w+(, )?", "$1,").replaceAll(",$", "");
+            written.add(heads.group(1) + " " + heads.group(2) + "(" + types + ")");
+        }
+        DUE.holds("the methods that the document writes: " + written, written.equals(new TreeSet<>(Set.of(FACE))));
+        Set<String> constants = new TreeSet<>();
+        Matcher lines = Pattern.compile("(?m)^    public static final (int|long) (.*);$").matcher(document);
+        while (lines.find()) {
+            for (String one : lines.group(2).split(", ")) {
+                String[] parts = one.split(" = ");
+                constants.add(lines.group(1) + " " + parts[0]);
+                long value = Long.parseLong(parts[1].replace("L", ""));
+                DUE.due(parts[0] + " in the document", FrozeFirst.class.getField(parts[0]).getLong(null), value);
+            }
+        }
+        DUE.holds("the constants that the document writes: " + constants, constants.equals(new TreeSet<>(Set.of(CONSTANTS))));
     }
 
     private static void methods() {
